@@ -1546,9 +1546,11 @@ public final class LoadSpans {
         private int toldCount;
         private final int[] moves = new int[MOVES];
         private final int[] spots = new int[PALLETS];
+        private final int[] palletOn = new int[SPOTS];
+        private final int[] nearRows = new int[Table.ROWS];
+        private int nearCount;
         private int size;
         private int spotCount;
-        private int firstAmount;
         private Table table;
 
         int seek(Plane plane, Cargo cargo, Table tableNow) {
@@ -1558,19 +1560,21 @@ public final class LoadSpans {
             table = tableNow;
             size = cargo.size;
             spotCount = plane.floor.spotCount;
-            firstAmount = cargo.inBin[0];
+            for (int s = 0; s < SPOTS; s++) {
+                palletOn[s] = cargo.lyingOn(s);
+            }
             System.arraycopy(cargo.spot, 0, spots, 0, PALLETS);
-            int away = nearest();
+            int away = findNearRows(cargo.inBin[0]);
             if (away > MOVES) {
                 return NONE;
             }
             for (int i = 0; i < away; i++) {
-                int next = leastMove(away - i);
-                if (next == NONE) {
+                moves[i] = leastMove(away - i);
+                if (moves[i] == NONE) {
                     return NONE;
                 }
-                moves[i] = next;
-                spots[next / 10] = next % 10;
+                doMove(moves[i] / 10, moves[i] % 10);
+                keepNearRows(away - i - 1);
             }
             return away;
         }
@@ -1590,15 +1594,31 @@ public final class LoadSpans {
             System.arraycopy(spots, 0, cargo.spot, 0, PALLETS);
         }
 
-        private int nearest() {
+        private int findNearRows(int firstAmount) {
             int best = NONE;
+            nearCount = 0;
             for (int row = 0; row < table.rows; row++) {
                 int away = table.takesAmount(row, firstAmount) ? movesTo(row) : NONE;
-                if (away != NONE && (best == NONE || away < best)) {
-                    best = away;
+                if (away == NONE || best != NONE && away > best) {
+                    continue;
                 }
+                nearCount = away == best ? nearCount : 0;
+                best = away;
+                nearRows[nearCount] = row;
+                nearCount++;
             }
             return best;
+        }
+
+        private void keepNearRows(int away) {
+            int kept = 0;
+            for (int i = 0; i < nearCount; i++) {
+                if (movesTo(nearRows[i]) == away) {
+                    nearRows[kept] = nearRows[i];
+                    kept++;
+                }
+            }
+            nearCount = kept;
         }
 
         private int movesTo(int row) {
@@ -1613,12 +1633,10 @@ public final class LoadSpans {
 
         private int leastMove(int away) {
             int best = NONE;
-            for (int row = 0; row < table.rows; row++) {
-                if (table.takesAmount(row, firstAmount) && movesTo(row) == away) {
-                    int found = leastMoveTo(row, away);
-                    if (found != NONE && (best == NONE || found < best)) {
-                        best = found;
-                    }
+            for (int i = 0; i < nearCount; i++) {
+                int found = leastMoveTo(nearRows[i], away);
+                if (found != NONE && (best == NONE || found < best)) {
+                    best = found;
                 }
             }
             return best;
@@ -1661,18 +1679,22 @@ public final class LoadSpans {
             return NONE;
         }
 
-        private int lyingOn(int s) {
-            for (int k = 0; k < size; k++) {
-                if (s != NONE && spots[k] == s) {
-                    return k;
-                }
+        private void doMove(int k, int s) {
+            int left = spots[k];
+            if (left >= 0 && left < SPOTS) {
+                palletOn[left] = NONE;
             }
-            return NONE;
+            spots[k] = s;
+            palletOn[s] = k;
+        }
+
+        private int lyingOn(int s) {
+            return s >= 0 && s < SPOTS ? palletOn[s] : NONE;
         }
 
         private int emptySpot() {
             for (int s = 0; s < spotCount; s++) {
-                if (lyingOn(s) == NONE) {
+                if (palletOn[s] == NONE) {
                     return s;
                 }
             }
@@ -1682,7 +1704,7 @@ public final class LoadSpans {
         private int emptySpots() {
             int empty = 0;
             for (int s = 0; s < spotCount; s++) {
-                empty += lyingOn(s) == NONE ? 1 : 0;
+                empty += palletOn[s] == NONE ? 1 : 0;
             }
             return empty;
         }
