@@ -1344,8 +1344,8 @@ public final class LoadSpans {
     }
 
     /**
-     * All GOOD LOADINGS in order. Those with the PALLETS on the same SPOTS are one row: as each STAGE asks something
-     * linear of the first BIN's amount (the second BIN has the rest of the bulk), the amounts that are GOOD have no gap.
+     * All GOOD LOADINGS in order. Those with the PALLETS on the same SPOTS are one row: the second BIN has the rest of
+     * the bulk, so each STAGE asks something linear of the first BIN's amount, and what is GOOD there has no gap.
      */
     private static final class Table {
         static final int ROWS = 720;
@@ -1428,7 +1428,7 @@ public final class LoadSpans {
             return row >= 0 && row < rows ? loadingsUpTo[row] : 0;
         }
 
-        /** Between which bounds the moment of PALLETS and of the slope of the BINS must be, by how many stops are past. */
+        /** By how many stops are past: what the moment of the PALLETS, with the first BIN's part, must lie between. */
         private void reckonMoments() {
             for (int past = 0; past <= STOPS; past++) {
                 momentLeast[past] = -FAR;
@@ -1476,7 +1476,7 @@ public final class LoadSpans {
             }
             for (int j = 0; j < floor.jointCount; j++) {
                 int later = floor.jointSpot[j];
-                boolean touched = s == later || s == later - 1;
+                boolean touched = later >= 1 && (s == later || s == later - 1);
                 if (touched && loadOnSpot[later] + loadOnSpot[later - 1] + weight > floor.jointLimit[j]) {
                     return false;
                 }
@@ -1651,7 +1651,7 @@ public final class LoadSpans {
                 if (lyingOn(s) == NONE && !shutsLastGap(k, away)) {
                     return 10 * k + s;
                 }
-                if (leastOfRing(row, k) != NONE) {
+                if (leastOfRing(row, k) != NONE && emptySpot() != NONE) {
                     return 10 * k + emptySpot();
                 }
             }
@@ -1680,6 +1680,9 @@ public final class LoadSpans {
         }
 
         private void doMove(int k, int s) {
+            if (k < 0 || k >= PALLETS || s < 0 || s >= SPOTS) {
+                return;
+            }
             int left = spots[k];
             if (left >= 0 && left < SPOTS) {
                 palletOn[left] = NONE;

@@ -24,9 +24,11 @@ public final class PromiseTest {
         blocks();
         loadings();
         slopes();
+        bounds();
         takes();
         handlings();
         mends();
+        mendsWithBins();
         spares();
         swaps();
         comeDropAgainWeigh();
@@ -398,6 +400,37 @@ public final class PromiseTest {
         is("behind the last", most.poured(72000, 1), -1);
     }
 
+    /** Where BINS are at one ARM, the bounds of the span are the PALLETS' alone: just at it, one past it. */
+    private static void bounds() {
+        String plane = "span 40 60;hold a 99 front;spot 0 99;spot 99 99;bin 50 5;bin 50 5;";
+        // with 4 at 50: 5200 + 0 by w is not below 40 by (104 + w) up to w = 26; 5200 + 99w not above 60 by it up to 26
+        is("at 26 kg on 0, on 99", Texts.loader(plane, "pallet a 26 1;bulk 4;").loadings(), 10);
+        is("at 27 kg", Texts.loader(plane, "pallet a 27 1;bulk 4;").loadings(), 0);
+        String just = "span 39 50;hold a 99 front;spot 50 99;";
+        is("just at the greater ARM", Texts.loader(just, "pallet a 5 1;").loadings(), 1);
+        is("just at the lesser ARM", Texts.loader(just.replace("39 50", "50 51"), "pallet a 5 1;").loadings(), 1);
+        is("above the greater ARM", Texts.loader(just.replace("39 50", "39 49"), "pallet a 5 1;").loadings(), 0);
+        is("below the lesser ARM", Texts.loader(just.replace("39 50", "51 59"), "pallet a 5 1;").loadings(), 0);
+    }
+
+    /** Which amounts are GOOD is another for each SPOT, and mend() leaves the BINS as they are. */
+    private static void mendsWithBins() {
+        LoadSpans x = Texts.loader("span 49 51;hold a 99 front;spot 40 99;spot 50 99;spot 60 99;bin 30 20;bin 70 20;",
+            "pallet a 10 1;bulk 20;");
+        // 5000 + 10 by the SPOT's ARM + 30n + 70(20 - n), from 49 to 51 by 130: 6370 to 6630
+        for (int n = 0; n <= 20; n++) {
+            x.pour(0, n);
+            x.pour(1, 20 - n);
+            int least = -1;
+            for (int s = 2; s >= 0; s--) {
+                int moment = 5000 + 10 * (40 + 10 * s) + 30 * n + 70 * (20 - n);
+                least = moment >= 49 * 130 && moment <= 51 * 130 ? s : least;
+            }
+            is("mend() with " + n, x.mend(), least == -1 ? -1 : 1);
+            is("move(0) with " + n, least == -1 ? -1 : x.move(0), least);
+        }
+    }
+
     /** BINS at other ARMS: how much is GOOD where, to the very unit, on both sides. */
     private static void slopes() {
         // 100 at 50 and 20 in BINS at a, b: MOMENT 5000 + 20b + n(a - b), to be from 49 to 51 by 120
@@ -674,5 +707,23 @@ public final class PromiseTest {
         is("restore(0) once more", x.restore(0), true);
         is("pallet(0, 2)", x.pallet(0, 2), 1);
         is("loadings() anew", x.loadings(), loader().loadings());
+        LoadSpans y = Texts.loader("tank a 1 90;tank b 99 9;stop;" + "burn a 5;".repeat(9) + "stop;burn b 9;"
+            + "hold h 9 front;spot 50 9;", "pallet a 9 2;");
+        y.put(0, 0);
+        int[] weights = new int[13];
+        int[] moments = new int[13];
+        for (int i = 0; i < 13; i++) {
+            weights[i] = y.stage(i, 0);
+            moments[i] = y.stage(i, 1);
+        }
+        is("the last STAGE", weights[12] * 100000L + moments[12], 145 * 100000L + 5045);
+        y.image(1);
+        Texts.plane(y, "");
+        is("one STAGE", y.stage(1, 0), -1000000);
+        y.restore(1);
+        for (int i = 0; i < 13; i++) {
+            is("restored: stage(" + i + ", 0)", y.stage(i, 0), weights[i]);
+            is("restored: stage(" + i + ", 1)", y.stage(i, 1), moments[i]);
+        }
     }
 }
