@@ -1,11 +1,16 @@
 import java.util.Random;
 
-/** Any call with any arguments in any state answers: none throws, none makes objects, none takes long. */
+/** Any call with any arguments in any state answers: none throws, none makes objects, each ends. */
 public final class WildCallsTest {
     private static final int[] ODD = {Integer.MIN_VALUE, Integer.MIN_VALUE + 1, -1000, -2, -1, 0, 1, 2, 3, 4, 5, 6, 7, 8, 9,
         10, 12, 13, 31, 32, 64, 99, 100, 300, 500, 540, 541, 719, 720, 72000, Integer.MAX_VALUE - 1, Integer.MAX_VALUE};
     private static final int RUNS = 4000;
     private static final int CALLS = 512;
+    private static final int STATES = 7;
+    private static final long MOST_MILLIS = 600000;
+    private static final String FIVE = "pallet a 1 1;pallet b 2 2;pallet c 3 3;pallet d 4 4;pallet e 5 9;";
+
+    private static volatile boolean ended;
 
     private final Random chance;
     private final LoadSpans x = new LoadSpans();
@@ -14,8 +19,17 @@ public final class WildCallsTest {
         chance = new Random(seed);
     }
 
-    public static void main(String[] args) {
+    public static void main(String[] args) throws InterruptedException {
         Due due = new Due("WildCallsTest");
+        Thread wild = new Thread(() -> all(due));
+        wild.setDaemon(true);
+        wild.start();
+        wild.join(MOST_MILLIS);
+        due.is("all calls have ended", ended, true);
+        due.close();
+    }
+
+    private static void all(Due due) {
         long sum = 0;
         for (int i = 0; i < RUNS; i++) {
             WildCallsTest test = new WildCallsTest(i);
@@ -23,14 +37,69 @@ public final class WildCallsTest {
                 for (int call = 0; call < CALLS; call++) {
                     sum += test.call();
                 }
-            } catch (RuntimeException | StackOverflowError e) {
+            } catch (RuntimeException | Error e) {
                 e.printStackTrace(System.out);
                 due.is("run " + i + " throws", true, false);
             }
         }
         due.is("the answers are something", sum != 0, true);
+        for (int state = 0; state < STATES; state++) {
+            WildCallsTest test = new WildCallsTest(state);
+            try {
+                test.come(state);
+                test.allPairs();
+            } catch (RuntimeException | Error e) {
+                e.printStackTrace(System.out);
+                due.is("state " + state + " throws", true, false);
+            }
+        }
         dearest(due);
-        due.close();
+        ended = true;
+    }
+
+    /** The states in which all pairs of odd arguments are tried. */
+    private void come(int state) {
+        String six = "hold a 999 front;" + "spot 50 99;".repeat(6) + "bin 1 99;bin 99 99;tank t 9 9;burn t 9;"
+            + "stop;".repeat(4);
+        switch (state) {
+            case 1 -> Texts.plane(x, six);
+            case 2 -> Texts.cargo(x, FIVE);
+            case 3, 4, 5 -> {
+                Texts.plane(x, six);
+                Texts.cargo(x, FIVE + "bulk 99;");
+                x.take(state == 3 ? -1 : 71);
+                x.image(0);
+                if (state == 5) {
+                    Texts.plane(x, "");
+                }
+            }
+            case 6 -> {
+                Texts.cargo(x, FIVE);
+                Texts.cargo(x, "!");
+                Texts.tell(x, " ".repeat(540));
+            }
+            default -> x.fault();
+        }
+    }
+
+    /** Of these, what changes something is called in the state to which the calls before have come. */
+    private void allPairs() {
+        long sum = 0;
+        for (int a : ODD) {
+            for (int b : ODD) {
+                sum += x.pallet(a, b) + x.spot(a, b) + x.in(a, b) + x.stage(a, b) + x.loading(a, b) + x.poured(a, b);
+                sum += x.put(a, b) + x.pour(a, b) + x.weigh(a, b) + x.come(a, b) + x.why() + x.where();
+            }
+            sum += x.count(a) + x.off(a) + x.blocks(a) + x.take(a) + x.handlings(a) + x.move(a) + x.spare(a) + x.again(a);
+            sum += x.drop(a) + x.undo() + x.mend() + x.mended() + x.swaps() + x.loadings() + x.feed(a, a, a, a, a) + x.fault();
+            x.end(a);
+            x.image(a);
+            x.restore(a);
+            sum += x.named();
+        }
+        x.feed((int) sum, 0, 0, 0, 0);
+        x.plane();
+        x.cargo();
     }
 
     private int any() {
