@@ -504,6 +504,10 @@ public final class RuleEdgesTest {
         told("two change places over SPOT 2, then c comes", x, 2, 11, 0, 23);
         x = lying(fits, "pallet a 10 1;pallet b 20 1;pallet c 30 1;", 1, 0, -1);
         told("c waits for the last empty SPOT", x, 2, 11, 0, 22);
+        x = lying(fits, "pallet a 30 1;pallet b 10 1;pallet c 20 1;", -1, 1, 0);
+        told("a waits for the last empty SPOT, though it is the least", x, 12, 21, 10, 2);
+        x = lying(fits + "spot 50 1;", "pallet a 30 1;pallet b 10 1;pallet c 20 1;", -1, 1, 0);
+        told("a need not wait: SPOT 3 is left", x, 2, 13, 21, 10);
         x = lying(fits, "pallet a 10 1;pallet b 20 1;pallet c 30 1;", 1, 0, 2);
         E.is("two can't change places without an empty SPOT", x.mend(), -1);
         x = lying(fits, "pallet a 10 1;pallet b 20 1;pallet c 30 1;", 1, 2, -1);
@@ -542,6 +546,14 @@ public final class RuleEdgesTest {
         for (int n = 0; n <= 9; n++) {
             bins.pour(0, n);
             E.is("with " + n + " of 5", bins.mend(), n == 5 ? 1 : -1);
+        }
+        bins = Texts.loader(same + "bin 50 5;bin 50 9;", pallets(1, 1, 1) + "bulk 7;");
+        for (int n = 0; n <= 5; n++) {
+            bins.pour(0, n);
+            for (int rest = 0; rest <= 9; rest++) {
+                bins.pour(1, rest);
+                E.is("with " + n + " and " + rest + " of 7", bins.mend(), n + rest == 7 ? 1 : -1);
+            }
         }
     }
 
