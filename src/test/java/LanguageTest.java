@@ -33,13 +33,9 @@ public final class LanguageTest {
         Class<?> c = LoadSpans.class;
         DUE.is("public and final", c.getModifiers(), Modifier.PUBLIC | Modifier.FINAL);
         Set<String> due = new TreeSet<>(List.of(FACE));
-        Set<String> names = new TreeSet<>();
-        due.forEach(f -> names.add(f.substring(0, f.indexOf('('))));
         Set<String> found = new TreeSet<>();
         for (Method m : c.getDeclaredMethods()) {
-            if (Modifier.isPrivate(m.getModifiers())) {
-                DUE.is(m.getName() + " is private and not of the face", names.contains(m.getName()), false);
-            } else if (!m.isSynthetic()) {
+            if (!Modifier.isPrivate(m.getModifiers()) && !m.isSynthetic()) {
                 List<String> types = new ArrayList<>();
                 for (Class<?> p : m.getParameterTypes()) {
                     types.add(p.getSimpleName());
@@ -61,22 +57,44 @@ public final class LanguageTest {
     private static void classes() {
         Class<?>[] inside = LoadSpans.class.getDeclaredClasses();
         DUE.is("some twelve classes", inside.length <= 11, true);
+        members(LoadSpans.class);
         for (Class<?> c : inside) {
             int how = c.getModifiers();
             DUE.is(c.getName() + " is static", Modifier.isStatic(how), true);
             DUE.is(c.getName() + " is public or protected", Modifier.isPublic(how) || Modifier.isProtected(how), false);
             DUE.is(c.getName() + " has classes inside", c.getDeclaredClasses().length, 0);
-            int fields = 0;
-            for (Field f : c.getDeclaredFields()) {
-                boolean constant = Modifier.isStatic(f.getModifiers());
-                fields += constant ? 0 : 1;
-                DUE.is(f.getName() + " is static and not final", constant && !Modifier.isFinal(f.getModifiers()), false);
-            }
-            DUE.is(c.getName() + " has some twenty fields: " + fields, fields <= 20, true);
-            for (Method m : c.getDeclaredMethods()) {
-                DUE.is(m.getName() + ": seven parameters at most", m.getParameterCount() <= 7, true);
-            }
+            members(c);
         }
+    }
+
+    private static void members(Class<?> c) {
+        int fields = 0;
+        for (Field f : c.getDeclaredFields()) {
+            boolean constant = Modifier.isStatic(f.getModifiers());
+            fields += constant ? 0 : 1;
+            DUE.is(f.getName() + " is static and not final", constant && !Modifier.isFinal(f.getModifiers()), false);
+            DUE.is(f.getName() + " is of a type that may be: " + f.getType(), mayBe(f.getType()), true);
+        }
+        DUE.is(c.getName() + " has some twenty fields: " + fields, fields <= 20, true);
+        Set<String> face = new TreeSet<>();
+        List.of(FACE).forEach(f -> face.add(f.substring(0, f.indexOf('('))));
+        for (Method m : c.getDeclaredMethods()) {
+            boolean hidden = Modifier.isPrivate(m.getModifiers());
+            DUE.is(c.getName() + "." + m.getName() + " bears a public name", hidden && face.contains(m.getName()), false);
+            DUE.is(m.getName() + ": seven parameters at most", m.getParameterCount() <= 7, true);
+            boolean types = mayBe(m.getReturnType());
+            for (Class<?> type : m.getParameterTypes()) {
+                types &= mayBe(type);
+            }
+            DUE.is(m.getName() + " is of types that may be", types, true);
+        }
+    }
+
+    /** Numbers, truth values, texts, own classes, and one dimension of these: the program needs no more. */
+    private static boolean mayBe(Class<?> type) {
+        Class<?> one = type.isArray() ? type.getComponentType() : type;
+        boolean own = one.getName().startsWith("LoadSpans");
+        return own || one == int.class || one == long.class || one == boolean.class || type == String.class || type == void.class;
     }
 
     private static void words(String source) {

@@ -2,21 +2,30 @@ import java.util.ArrayList;
 import java.util.List;
 import java.util.Random;
 
-/** Texts of PLANE and CARGO by chance: mostly without a FAULT, and mostly so that some LOADINGS are GOOD. */
+/**
+ * Texts of PLANE and CARGO by chance: mostly without a FAULT, and mostly so that some LOADINGS are GOOD. Some objects tell
+ * numbers as far as they go instead: ARMS, the span, what is empty, in TANKS, in BINS.
+ */
 final class RandomTexts {
     private static final String[] WORDS = {"empty", "span", "hold", "front", "back", "spot", "joint", "bin", "tank",
         "burn", "stop", "pallet", "bulk", "a", "fore", "aft", "main", "wing", "abcdefgh", "abcdefghi", "0", "1", "7",
         "10", "99", "100", "999", "1000", "007", "000", ";", ";", "a1", "1a", "!", "A", "\u00e9", "\n"};
 
     private final Random chance;
+    private final boolean wide;
     private final List<String> names = new ArrayList<>();
 
     RandomTexts(Random chance) {
         this.chance = chance;
+        wide = chance.nextInt(3) == 0;
     }
 
     private int from(int least, int most) {
         return least + chance.nextInt(most - least + 1);
+    }
+
+    private int arm(int least, int most) {
+        return wide ? from(0, 99) : from(least, most);
     }
 
     private String name() {
@@ -32,16 +41,16 @@ final class RandomTexts {
         List<String> lines = new ArrayList<>();
         names.clear();
         if (chance.nextInt(4) != 0) {
-            lines.add("empty " + from(50, 600) + " " + from(44, 56));
+            lines.add("empty " + (wide ? from(1, chance.nextBoolean() ? 999 : 40) : from(50, 600)) + " " + arm(44, 56));
         }
         if (chance.nextInt(4) != 0) {
-            int lesser = from(20, 49);
-            lines.add("span " + lesser + " " + from(Math.max(50, lesser + 1), 80));
+            int lesser = wide ? from(0, 98) : from(20, 49);
+            lines.add("span " + lesser + " " + (wide ? from(lesser + 1, 99) : from(50, 80)));
         }
         addFloor(lines);
         int bins = chance.nextInt(3);
         for (int b = 0; b < bins; b++) {
-            lines.add("bin " + from(20, 80) + " " + (chance.nextInt(40) == 0 ? from(1, 99) : from(1, 9)));
+            lines.add("bin " + arm(20, 80) + " " + (chance.nextInt(wide ? 20 : 40) == 0 ? from(1, wide ? 30 : 99) : from(1, 9)));
         }
         addVoyage(lines);
         return join(lines);
@@ -57,7 +66,7 @@ final class RandomTexts {
                 + (chance.nextBoolean() ? " front" : " back"));
             int here = chance.nextInt(h == holds - 1 ? 7 - spots : Math.min(5, 7 - spots));
             for (int s = 0; s < here; s++) {
-                lines.add("spot " + from(25, 75) + " " + (chance.nextInt(3) == 0 ? from(10, 60) : 99));
+                lines.add("spot " + arm(25, 75) + " " + (chance.nextInt(3) == 0 ? from(10, 60) : 99));
                 if (s > 0 && chance.nextInt(3) == 0) {
                     lines.add("joint " + from(20, 160));
                 }
@@ -69,7 +78,7 @@ final class RandomTexts {
     private void addVoyage(List<String> lines) {
         List<String> tanks = new ArrayList<>();
         List<Integer> left = new ArrayList<>();
-        int all = from(0, 9);
+        int all = from(0, wide ? 16 : 9);
         int stops = 0;
         for (int i = 0; i < all; i++) {
             int kind = chance.nextInt(3);
@@ -77,8 +86,8 @@ final class RandomTexts {
                 String name = name();
                 names.add(name);
                 tanks.add(name);
-                left.add(from(1, 60));
-                lines.add("tank " + name + " " + from(30, 70) + " " + left.get(left.size() - 1));
+                left.add(from(1, wide ? 99 : 60));
+                lines.add("tank " + name + " " + arm(30, 70) + " " + left.get(left.size() - 1));
             } else if (kind == 1 && stops < 4) {
                 stops++;
                 lines.add("stop");
@@ -101,7 +110,7 @@ final class RandomTexts {
             String name = name();
             names.add(name);
             lines.add("pallet " + name + " " + (chance.nextBoolean() ? from(1, 20) : from(1, 99)) + " "
-                + (chance.nextInt(6) == 0 ? from(1, 9) : from(1, 3)));
+                + (chance.nextInt(wide ? 3 : 6) == 0 ? from(1, 9) : from(1, 3)));
         }
         if (chance.nextInt(3) == 0) {
             lines.add(chance.nextInt(lines.size() + 1), "bulk " + (chance.nextInt(8) == 0 ? from(0, 198) : from(0, 10)));
